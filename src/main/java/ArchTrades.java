@@ -985,6 +985,9 @@ public final class ArchTrades {
      * below and above never stand in each other's way.
      */
     private static final class Foretold {
+        /** So many rows have six charters at most: 6 * 5 * 4 * 3 * 2. */
+        private static final int MOST_DEALS = 720;
+
         /** HOURS (bits) in which a BOAT has room at an ARCH, whoever's this is. */
         private final int[] roomy = new int[BOATS * ARCHES];
         private final int[] chartersFor = new int[BOATS];
@@ -1023,7 +1026,7 @@ public final class ArchTrades {
             sortCharters();
             int best = -1;
             boolean isMore = true;
-            for (int row = 0; row < 720 && isMore && best < bound; row++) {
+            for (int row = 0; row < MOST_DEALS && isMore && best < bound; row++) {
                 int n = placedFrom(0);
                 if (n > best) {
                     best = n;

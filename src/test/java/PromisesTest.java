@@ -302,6 +302,12 @@ public final class PromisesTest {
         faultAt("boat", 0, 1);
         faultAt("5", 0, 1);
         faultAt(";", 0, 1);
+        faultAt("tidez 0", 0, 1);
+        faultAt("atide 0", 0, 1);
+        faultAt("tide{", 4, 1);
+        faultAt("tide`", 4, 1);
+        faultAt("tide 0/", 6, 1);
+        faultAt("tide 0:", 6, 1);
         faultAt("tide;", 4, 1);
         faultAt("tide 20 21;", 8, 2);
         faultAt("tide 0 0 0 0 0 0 0 0 0 0 0 0 0;", 29, 1);

@@ -18,6 +18,7 @@ public final class ActEdgesTest {
         passMayNot();
         passTaken();
         tolls();
+        goes();
         splits();
         splitStates();
         splitFull();
@@ -86,6 +87,18 @@ public final class ActEdgesTest {
             }
         }
         T.due("all ARCHES", x.arch(0, 0) * 10 + x.arch(5, 1), 44);
+        T.says("a charter is LENT to another TRADE (or 4)");
+        ArchTrades y = with("arch 0 1 20 1;boat cog 0 0 1 0 0;boat cog 0 0 1 1 0;boat cart 0 1 0 0 0;");
+        T.due("not by TRADE 0's", y.pass(0, 0), STATE);
+        y.lend(0, 0, 1);
+        T.due("by its own", y.may(0, 0) * 10 + y.may(1, 0), 10);
+        y.lend(0, 0, 4);
+        T.due("by nobody's", y.may(0, 0) * 10 + y.may(1, 0), 11);
+        T.due("above is not LENT", y.may(2, 0), 0);
+        y.lend(0, 1, 0);
+        T.due("above is LENT", y.may(2, 0), 1);
+        y.lend(0, 1, 0);
+        T.due("to whose it is: an ACT, too", y.count(4), 4);
     }
 
     private static void lendsWrong() {
@@ -232,7 +245,33 @@ public final class ActEdgesTest {
         T.due("all that was had", y.count(6), 15);
     }
 
+    private static void goes() {
+        T.says("a BOAT GOES by an ARCH in the HOUR that it is (it is GONE, its TOLL is had)");
+        ArchTrades x = Texts.with("tide 20 0 20 20 20 20 20 20 20 20 20 0;arch 4 4 9 3;boat cog 9 1 0 0 0;boat cog 9 1 1 0 0;");
+        T.due("in HOUR 0", x.pass(0, 0), STATE);
+        x.hour();
+        T.due("in HOUR 1", x.pass(0, 0), 3);
+        T.due("GONE", x.boat(0, 5) * 10 + x.count(5), 11);
+        T.due("had", x.count(6), 3);
+        for (int hour = 2; hour <= 11; hour++) {
+            T.due("in another HOUR", x.pass(1, 0), STATE);
+            x.hour();
+        }
+        T.says(11, "A BOAT GOES by an ARCH: the TOLL");
+        T.due("in HOUR 11", x.pass(1, 0), 12);
+        T.due("had", x.count(6), 15);
+        T.due("GONE", x.count(5), 2);
+    }
+
     private static void splits() {
+        T.says(12, "All of a TRADE that a BOAT has comes into a new BOAT: its number");
+        ArchTrades w = with("arch 4 4 20 1;boat cog 17 9 1 1 1;");
+        for (int trade = 0; trade < 3; trade++) {
+            T.due("split(0, " + trade + ")", w.split(0, trade), 1 + trade);
+            T.due("none of it is left", w.boat(0, trade), 0);
+            T.due("all of it came", w.boat(1 + trade, trade), trade == 0 ? 9 : 1);
+        }
+        T.due("the last TRADE stays", w.split(0, 3), STATE);
         T.says("of one TRADE all comes into a new BOAT of its SORT and MAST");
         ArchTrades x = with("arch 4 4 20 1;boat wain 17 9 1 0 2;");
         T.due("its number", x.split(0, 0), 1);
@@ -310,6 +349,10 @@ public final class ActEdgesTest {
             T.due("hour()", x.hour(), hour);
             T.due("count(3)", x.count(3), hour);
         }
+        T.says(13, "The next HOUR: its number");
+        ArchTrades z = with("arch 4 4 20 1;");
+        T.due("HOUR 0 at first", z.count(3), 0);
+        T.due("the first", z.hour(), 1);
         T.says(13, "STATE: no BRIDGE; FULL: it is HOUR 11");
         T.due("hour() in HOUR 11", x.hour(), FULL);
         T.due("again", x.hour(), FULL);

@@ -12,6 +12,7 @@ public final class AskEdgesTest {
     public static void main(String[] args) {
         kinds();
         taken();
+        families();
         sizes();
         marks();
         splitKinds();
@@ -69,6 +70,37 @@ public final class AskEdgesTest {
             T.due("BOAT " + wild, x.as(wild, 0), BAD);
             T.due("BOAT " + wild + ", no such KIND", x.as(wild, 9), BAD);
         }
+    }
+
+    private static void families() {
+        T.says("KINDS of BOATS: 0 BOAT; 1 BARGE, a BOAT; 2 COG, a BARGE; 3 RAFT, a BARGE; 4 CART, a BOAT; 5 WAIN, a CART");
+        ArchTrades x = ofEach(0, "0 0 0 0");
+        for (int boat = 0; boat < 5; boat++) {
+            T.due("all are BOATS", x.as(boat, 0), boat);
+            T.due("all are what they are told as", x.as(boat, 1 + boat), boat);
+        }
+        T.due("a cog is a BARGE", x.as(1, 1), 1);
+        T.due("a raft is a BARGE", x.as(2, 1), 2);
+        T.due("a wain is a CART", x.as(4, 4), 4);
+        T.due("a barge is no COG", x.as(0, 2), KIND);
+        T.due("a cog is no RAFT", x.as(1, 3), KIND);
+        T.due("a cart is no WAIN", x.as(3, 5), KIND);
+        T.due("a cart is no BARGE", x.as(3, 1), KIND);
+        T.says("(Of an ask the BODY told for the KIND begins, else that of the nearest KIND that it is, too, else the one that is lent; "
+            + "SIZE, MARK within others are asked of the same BOAT anew.)");
+        int[][] first = {{11, 21}, {11, 22}, {12, 24}, {13, 23}, {14, 23}};
+        for (int boat = 0; boat < 5; boat++) {
+            for (int what = 0; what < 2; what++) {
+                x.ask(boat, what);
+                T.due("what begins, of " + SORTS[boat], x.trace(0), first[boat][what]);
+            }
+        }
+        x.ask(1, 0);
+        T.due("MARK anew of a cog", x.trace(2), 22);
+        x.ask(2, 0);
+        T.due("MARK anew of a raft", x.trace(3), 24);
+        x.ask(4, 1);
+        T.due("SIZE anew of a wain", x.trace(2), 14);
     }
 
     private static void asked(ArchTrades x, int boat, int what, int answer, int... bodies) {

@@ -10,6 +10,7 @@ public final class ForetoldEdgesTest {
 
     public static void main(String[] args) {
         charters();
+        shut();
         underHigh();
         raftHalf();
         overHigh();
@@ -22,6 +23,7 @@ public final class ForetoldEdgesTest {
         mostNotGone();
         mostCrowd();
         anewRows();
+        anewEachRow();
         anewShut();
         anewWrong();
         cutEnds();
@@ -60,6 +62,33 @@ public final class ForetoldEdgesTest {
                 T.due(sort + " of TRADES " + bits, with(arches + "boat " + sort + " 5" + loads(bits)).may(0, 0), own);
             }
         }
+    }
+
+    private static void shut() {
+        String six = "arch 4 4 30 1;".repeat(6);
+        T.says("A barge, a cog, a raft goes UNDER an ARCH in an HOUR, if this is not SHUT");
+        for (String sort : new String[] {"barge", "cog", "raft"}) {
+            shutOneByOne(with(six + "boat " + sort + " 0 0 0 0 0;"));
+        }
+        T.says("A cart, a wain goes OVER, if the ARCH is not SHUT");
+        for (String sort : new String[] {"cart", "wain"}) {
+            shutOneByOne(with(six + "boat " + sort + " 0 0 0 0 0;"));
+        }
+        T.says("MAY of a BOAT in an HOUR: ARCHES (bits)");
+        T.due("all six", with(six + "boat cog 0 0 0 0 0;").may(0, 11), 63);
+        T.due("the last alone", with("arch 0 4 30 1;".repeat(5) + "arch 1 4 30 1;boat cog 0 0 1 0 0;").may(0, 11), 32);
+        T.due("none", with("arch 0 4 30 1;".repeat(6) + "boat cog 0 0 1 0 0;").may(0, 11), 0);
+    }
+
+    private static void shutOneByOne(ArchTrades x) {
+        int open = 63;
+        for (int arch = 0; arch < 6; arch++) {
+            x.shut(arch, 1);
+            open &= ~(1 << arch);
+            T.due("SHUT up to " + arch, x.may(0, 0), open);
+        }
+        x.shut(3, 0);
+        T.due("open again", x.may(0, 0), 8);
     }
 
     /** The answer of one BOAT at one ARCH with one tide in HOUR 0. */
@@ -290,6 +319,32 @@ public final class ForetoldEdgesTest {
         T.due("no ACT", x.count(4), 2);
     }
 
+    /** ARCHES each lower than the one before, and for each a BOAT that fits just there: one row alone lets all go by. */
+    private static void anewEachRow() {
+        T.says("so that MOST in HOURS a to b is greatest: how many");
+        for (String told : new String[] {"01", "012", "0123", "0012", "0122", "00112", "001122", "001123", "000123"}) {
+            eachRow(told, "", told);
+        }
+    }
+
+    private static void eachRow(String told, String ahead, String left) {
+        if (left.isEmpty()) {
+            StringBuilder s = new StringBuilder(Texts.STILL);
+            for (int i = 0; i < told.length(); i++) {
+                s.append("arch ").append(told.charAt(i)).append(" 4 ").append(20 - i).append(" 1;");
+            }
+            for (int i = 0; i < ahead.length(); i++) {
+                s.append("boat cog ").append(20 - i).append(loads(1 << ahead.charAt(i) - '0'));
+            }
+            T.same("charters " + told, dealt(Texts.with(s.toString()), 7, 7), told.length() + ":" + ahead);
+        }
+        for (int i = 0; i < left.length(); i++) {
+            if (i == 0 || left.charAt(i) != left.charAt(i - 1)) {
+                eachRow(told, ahead + left.charAt(i), left.substring(0, i) + left.substring(i + 1));
+            }
+        }
+    }
+
     private static void anewShut() {
         T.says("the UNDER charters that there are dealt out anew among the ARCHES");
         ArchTrades x = with("arch 0 0 9 1;arch 1 0 9 1;boat cog 9 1 0 0 0;");
@@ -322,7 +377,11 @@ public final class ForetoldEdgesTest {
         for (int wild : new int[] {LEAST, -2, 2, 3, 6, GREATEST}) {
             T.due("k " + wild, x.anew(0, 11, wild), BAD);
         }
+        T.says(19, "ANEW in HOURS a to b: how many (k = -1), the UNDER charter of ARCH k");
+        T.due("how many", x.anew(0, 11, -1), 3);
+        T.due("k the first ARCH", x.anew(0, 11, 0), 3);
         T.due("k the last ARCH", x.anew(0, 11, 1), 4);
+        T.says(19, "STATE: no BRIDGE (ahead of BAD)");
         T.due("no BRIDGE", none.anew(0, 0, -1), STATE);
     }
 
@@ -376,6 +435,7 @@ public final class ForetoldEdgesTest {
                 T.due("of " + is + " as of " + declared, x.weighed(0, 0), is == declared ? 0 : 1);
             }
         }
+        T.says("BOATS (bits) that weigh more, or less than so much of that would");
         ArchTrades y = with("arch 4 4 9 1;boat cog 0 9 0 9 0;boat cog 0 9 0 8 0;boat cog 0 8 0 9 0;boat cog 0 0 0 0 0;boat cart 0 3 0 0 3;"
             + "boat wain 0 1 0 1 0;");
         y.row(0, 0, 6);

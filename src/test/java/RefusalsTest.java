@@ -22,6 +22,7 @@ public final class RefusalsTest {
         test.untold();
         test.midway();
         test.full();
+        order();
         manyCalls();
         T.end();
     }
@@ -297,6 +298,42 @@ public final class RefusalsTest {
         refused("row", SIZE, x -> x.row(7, 2, Integer.MIN_VALUE));
         refused("weighed", PLACE, x -> x.weighed(7, 35));
         refused("as", KIND, x -> x.as(1, 2));
+    }
+
+    /** Calls that have several refusals at once. */
+    private static void order() {
+        T.says("Refusals are answers, the first of these that fits, but as told: BAD (a number is not as told; there is no such thing), "
+            + "STATE (as told), FULL (as told), then FINDINGS, of several the first in time");
+        ArchTrades x = new ArchTrades();
+        tellFull(x);
+        T.due("row, BAD of SIZE", x.row(8, 0, -1), BAD);
+        T.due("feed, BAD of FULL", x.feed(0, 9), BAD);
+        T.due("pass, BAD of STATE", x.pass(0, 6), BAD);
+        T.due("split, BAD of STATE, FULL", x.split(0, 4), BAD);
+        T.due("split, STATE of FULL", x.split(0, 0), STATE);
+        T.due("split, FULL", x.split(1, 1), FULL);
+        T.due("hour, FULL", x.hour(), FULL);
+        T.due("restore, BAD of STATE", x.restore(2), BAD);
+        T.due("as, BAD of KIND", x.as(6, 5), BAD);
+        x.drop(7);
+        x.row(6, 1, 3);
+        T.due("set, BAD of PLACE", x.set(8, 99, 0), BAD);
+        T.due("set, NULL of PLACE", x.set(7, 99, 0), NULL);
+        T.due("copy, BAD of NULL", x.copy(7, 0, 8, 0, 0), BAD);
+        T.due("copy, NULL of STORE, PLACE", x.copy(6, -1, 7, 0, 0), NULL);
+        T.due("copy, STORE of PLACE", x.copy(6, -1, 0, 0, 0), STORE);
+        T.due("weighed, BAD of PLACE", x.weighed(8, -1), BAD);
+        T.due("weighed, NULL of PLACE", x.weighed(7, -1), NULL);
+        x.set(0, 39, 9);
+        T.due("weighed, PLACE of a later BAD", x.weighed(0, 35), PLACE);
+        T.due("weighed, a later BAD", x.weighed(0, 34), BAD);
+        ArchTrades none = new ArchTrades();
+        T.due("most, STATE of BAD", none.most(9, 8, 7), STATE);
+        T.due("anew, STATE of BAD", none.anew(9, 8, 7), STATE);
+        T.due("cut, STATE of BAD", none.cut(31, 21), STATE);
+        T.due("weighed, STATE of BAD", none.weighed(8, 0), STATE);
+        T.due("weighed, STATE of NULL", none.weighed(0, 0), STATE);
+        T.due("image, BAD of STATE", none.image(2), BAD);
     }
 
     /** What calls behind the 512th answer is free, but none may throw. */

@@ -31,6 +31,7 @@ public final class TextEdgesTest {
         theEnd();
         cannotStand();
         theFirst();
+        notAsTold();
         theLeast();
         inPlace();
         allStays();
@@ -100,6 +101,12 @@ public final class TextEdgesTest {
         String text = Texts.TIDE + ARCH + BOAT;
         String spread = " ".repeat(500 - text.length()) + text;
         T.due("a text of 500 bytes", Texts.bridge(new ArchTrades(), spread), 1);
+        T.due("a NAME of 500 bytes", Texts.bridge(new ArchTrades(), "a".repeat(500)), FAULT);
+        T.due("500 figures", Texts.bridge(new ArchTrades(), "0".repeat(500)), FAULT);
+        T.due("500 SIGNS", Texts.bridge(new ArchTrades(), ";".repeat(500)), FAULT);
+        T.due("a NAME at the end of all", Texts.bridge(new ArchTrades(), " ".repeat(496) + "tide"), FAULT - 500);
+        T.due("a NUMBER at the end of all", Texts.bridge(new ArchTrades(), " ".repeat(494) + "tide 9"), FAULT - 500);
+        T.due("a NUMBER not as told at the end of all", Texts.bridge(new ArchTrades(), " ".repeat(493) + "tide 21"), FAULT - 498);
         String longest = Texts.STILL + "arch 004 004 030 009;".repeat(6) + "boat barge 020 009 009 009 009;".repeat(6);
         T.due("as long as TOKENS make it", Texts.bridge(new ArchTrades(), longest), 6);
     }
@@ -139,6 +146,10 @@ public final class TextEdgesTest {
         T.due("room again", y.feed(0, 8), 8);
         y.bridge();
         T.due("a shorter text behind a longer one", Texts.bridge(y, Texts.STILL + ARCH), 1);
+        T.due("nothing of the longer one is read: a NAME", Texts.bridge(y, "tid"), FAULT);
+        Texts.bridge(y, "tide 0 0 0000");
+        T.due("nothing of the longer one is read: a NUMBER", Texts.bridge(y, "tide 0 0 0"), FAULT - 10);
+        T.due("nothing of the longer one is read: a SIGN", Texts.bridge(y, "tide 0 0 0 0 0 0 0 0 0 0 0 0"), FAULT - 28);
     }
 
     private static void figures() {
@@ -158,7 +169,7 @@ public final class TextEdgesTest {
     private static void names() {
         T.says("NAMES (letters a to z)");
         read(Texts.STILL + ARCH + BOAT, 0, 1);
-        for (String word : new String[] {"t", "tid", "tidee", "atide", "edit", "a", "z", "arch", "boat", "cog", "tidetide", "z".repeat(400)}) {
+        for (String word : new String[] {"t", "tid", "tidee", "tidez", "tidea", "atide", "ztide", "xide", "edit", "a", "z", "arch", "boat", "cog", "tidetide", "z".repeat(400)}) {
             read(word + Texts.STILL.substring(4) + ARCH, 1, 0);
         }
         for (String word : new String[] {"TIDE", "Tide", "{ide", "`ide"}) {
@@ -166,6 +177,8 @@ public final class TextEdgesTest {
         }
         read("tidE" + Texts.STILL.substring(4) + ARCH, 1, 0);
         read(Texts.STILL + "archarch 4 4 9 1;", 1, 29);
+        read(Texts.STILL + "xrch 4 4 9 1;", 1, 29);
+        read(Texts.STILL + ARCH + "xoat cog 3 1 0 0 0;", 1, 42);
     }
 
     /** A byte between blanks, ahead of eleven NUMBERS: the twelfth, a blank more, or what cannot stand there. */
@@ -284,7 +297,7 @@ public final class TextEdgesTest {
             T.due(sorts[i], x.kind(0), 1 + i);
         }
         for (String word : new String[] {"boat", "arch", "tide", "barges", "barg", "co", "cogs", "craft", "raf", "car", "carts", "wai",
-            "wains", "c", "Cog", "7", ";", "?"}) {
+            "wains", "c", "xog", "xarge", "xaft", "dart", "vain", "Cog", "7", ";", "?"}) {
             read(Texts.STILL + ARCH + "boat " + word + " 3 1 0 0 0;", 1, 42 + 5);
         }
         read(Texts.STILL + ARCH + "boat 3 1 0 0 0;", 1, 42 + 5);
@@ -401,6 +414,23 @@ public final class TextEdgesTest {
         read(Texts.STILL + ARCH + "boat cog 21 x", 2, 51);
         read(Texts.STILL + ARCH.repeat(7) + "?", 3, 29 + 6 * 13);
         read(Texts.STILL + ARCH.repeat(5) + "arch 5" + ARCH.repeat(2), 2, 29 + 5 * 13 + 5);
+    }
+
+    private static void notAsTold() {
+        T.says("2 a NUMBER that is not as told");
+        read("tide 0 0 0 0 0 0 0 0 0 0 0 21;" + ARCH, 2, 27);
+        read("tide 0 0 0 0 0 0 0 0 0 0 0 20;" + ARCH, 0, 1);
+        read(Texts.STILL + "arch 5 4 9 1;", 2, 34);
+        read(Texts.STILL + "arch 4 5 9 1;", 2, 36);
+        read(Texts.STILL + "arch 4 4 0 1;", 2, 38);
+        read(Texts.STILL + "arch 4 4 000 1;", 2, 38);
+        read(Texts.STILL + "arch 4 4 1 1;", 0, 1);
+        read(Texts.STILL + "arch 4 4 31 1;", 2, 38);
+        read(Texts.STILL + "arch 4 4 9 10;", 2, 40);
+        read(Texts.STILL + ARCH + "boat cog 21 1 0 0 0;", 2, 51);
+        read(Texts.STILL + ARCH + "boat cog 20 10 0 0 0;", 2, 54);
+        read(Texts.STILL + ARCH + "boat cog 20 0 0 0 010;", 2, 60);
+        read(Texts.STILL + ARCH + "boat cog 20 0 0 0 009;", 0, 1);
     }
 
     private static void theLeast() {

@@ -308,6 +308,10 @@ public final class ForetoldEdgesTest {
         String last = "arch 0 0 9 1;arch 1 0 8 1;arch 2 0 7 1;arch 3 0 6 1;";
         T.same("the last row of all", dealt(with(last + "boat cog 6 1 0 0 0;boat cog 7 0 1 0 0;boat cog 8 0 0 1 0;boat cog 9 0 0 0 1;"), 0, 0),
             "4:3210");
+        T.same("not all can go: the first of many rows", dealt(with("arch 2 0 9 1;arch 1 0 9 1;arch 0 0 9 1;" + "boat cog 9 1 0 0 0;".repeat(2)), 0, 0),
+            "1:012");
+        T.same("not all can go: the first of two rows", dealt(with("arch 2 0 9 1;arch 1 0 8 1;arch 0 0 7 1;" + "boat cog 8 0 0 1 0;".repeat(2)), 0, 0),
+            "1:021");
         ArchTrades x = with("arch 1 0 9 1;arch 0 1 5 1;boat cog 9 1 0 0 0;boat cart 0 1 0 0 0;");
         T.due("as they are", x.most(0, 0, -1), 1);
         T.same("OVER stays, above counts", dealt(x, 0, 0), "2:01");

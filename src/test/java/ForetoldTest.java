@@ -6,12 +6,32 @@ public final class ForetoldTest {
     private static final Check CHECK = new Check("ForetoldTest");
     private static final String[] SORTS = {"barge", "cog", "raft", "cart", "wain"};
 
+    /**
+     * Knots, so rare that random bridges seldom have one: a BOAT that makes way would be asked again by the one that
+     * it asks. If it were, two BOATS would have one place, and there would be a place that no BOAT has.
+     */
+    private static final String[] KNOTS = {
+        "6 7 tide 1 1 0 1 1 1 0 2 0 1 1 2;arch 1 4 2 1;arch 4 4 6 1;arch 3 4 3 1;arch 0 4 6 1;arch 0 4 2 1;arch 4 4 5 1;boat barge 4 0 1 0 0;"
+            + "boat barge 8 0 0 0 0;boat barge 1 3 0 0 0;boat cog 3 0 1 0 1;boat cog 6 0 3 0 0;boat barge 6 0 0 0 3;",
+        "0 2 tide 8 5 7 8 5 5 7 6 10 9 9 7;arch 4 4 11 1;arch 0 4 7 1;arch 1 4 5 1;arch 4 4 9 1;arch 0 4 6 1;arch 0 4 11 1;"
+            + "boat cog 4 0 0 3 0;boat raft 2 1 0 0 1;boat raft 1 0 3 0 0;boat cog 4 1 0 0 0;boat cog 6 0 0 0 3;boat cog 5 0 0 3 0;",
+        "7 9 tide 11 11 13 13 14 14 12 13 14 12 11 12;arch 4 4 18 1;arch 2 4 13 1;arch 4 4 14 1;arch 2 4 18 1;boat cog 5 0 0 0 3;"
+            + "boat barge 1 0 0 3 0;boat barge 2 3 0 0 0;boat raft 6 3 0 0 0;boat cog 6 1 1 0 0;boat barge 7 0 0 0 1;",
+        "7 8 tide 10 10 10 10 10 10 10 10 10 10 10 10;arch 1 4 15 1;arch 4 4 15 1;arch 0 4 15 1;arch 4 4 11 1;boat raft 6 1 1 0 1;"
+            + "boat raft 4 0 3 0 0;boat raft 1 0 0 0 3;boat barge 1 0 0 0 0;boat raft 8 0 3 0 0;boat raft 4 0 1 0 1;",
+        "0 0 tide 1 1 1 1 1 1 1 1 1 1 1 1;arch 0 4 5 1;arch 4 4 6 1;arch 1 4 1 1;arch 0 4 10 1;arch 4 4 7 1;arch 3 4 5 1;boat cog 6 0 0 0 0;"
+            + "boat cog 0 0 0 0 0;boat raft 6 0 0 3 0;boat cog 4 0 0 0 0;boat raft 4 3 0 0 0;boat raft 5 0 0 3 0;"};
+
     private final Random random = new Random(20261118);
 
     private ForetoldTest() {
     }
 
     public static void main(String[] args) {
+        for (String knot : KNOTS) {
+            String[] parts = knot.split(" ", 3);
+            knotted(parts[2], Integer.parseInt(parts[0]), Integer.parseInt(parts[1]));
+        }
         ForetoldTest test = new ForetoldTest();
         for (int n = 0; n < BRIDGES && CHECK.wrong() == 0; n++) {
             test.one(n % 20 == 0);
@@ -19,14 +39,27 @@ public final class ForetoldTest {
         CHECK.end();
     }
 
-    private void one(boolean isDealt) {
-        String text = text();
-        ArchTrades x = Texts.with(text);
+    private static Model model(String text) {
         Model m = new Model();
         for (int i = 0; i < text.length(); i++) {
             m.feed(text.charAt(i), 1);
         }
         m.bridge();
+        return m;
+    }
+
+    private static void knotted(String text, int a, int b) {
+        ArchTrades x = Texts.with(text);
+        Model m = model(text);
+        for (int k = -1; k < 6; k++) {
+            CHECK.due("most(" + a + ", " + b + ", " + k + ") of " + text, x.most(a, b, k), m.most(a, b, k));
+        }
+    }
+
+    private void one(boolean isDealt) {
+        String text = text();
+        ArchTrades x = Texts.with(text);
+        Model m = model(text);
         int shut = random.nextInt(8);
         x.shut(shut, 1);
         m.shut(shut, 1);

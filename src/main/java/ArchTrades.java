@@ -856,7 +856,7 @@ public final class ArchTrades {
             if (trades == 0) {
                 return (1 << (NOBODYS + 1)) - 1;
             }
-            return isMixed(boat) ? 1 << NOBODYS : 1 << NOBODYS | trades;
+            return Integer.bitCount(trades) > 1 ? 1 << NOBODYS : 1 << NOBODYS | trades;
         }
 
         /** Whether a BOAT has room at a tide, whoever's the ARCH is. */

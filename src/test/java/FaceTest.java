@@ -6,7 +6,9 @@ import java.lang.reflect.Modifier;
 import java.nio.file.Files;
 import java.nio.file.Path;
 import java.util.Arrays;
+import java.util.Map;
 import java.util.Set;
+import java.util.TreeMap;
 import java.util.TreeSet;
 import java.util.regex.Matcher;
 import java.util.regex.Pattern;
@@ -15,6 +17,7 @@ import java.util.stream.Collectors;
 /** The face of the class is the document's, and its file keeps to what a look at the text can tell of LANGUAGE.md. */
 public final class FaceTest {
     private static final Check CHECK = new Check("FaceTest");
+    private static final int MOST_DEEP = 8;
     private static final Path SOURCE = Path.of("src/main/java/ArchTrades.java");
     private static final String[] FACE = {
         "row(int,int,int)", "set(int,int,int)", "copy(int,int,int,int,int)", "drop(int)", "feed(long,int)", "bridge()",
@@ -30,7 +33,9 @@ public final class FaceTest {
         constants();
         methods();
         inside();
-        text(Files.readString(SOURCE));
+        String bare = bare(Files.readString(SOURCE));
+        text(bare);
+        bodies(bare);
         CHECK.end();
     }
 
@@ -65,7 +70,6 @@ public final class FaceTest {
     }
 
     private static void inside() {
-        Set<String> names = Arrays.stream(FACE).map(s -> s.substring(0, s.indexOf('('))).collect(Collectors.toSet());
         Class<?>[] classes = ArchTrades.class.getDeclaredClasses();
         CHECK.holds("at most twelve classes", classes.length + 1 <= 12);
         for (Class<?> c : classes) {
@@ -73,14 +77,18 @@ public final class FaceTest {
             long fields = Arrays.stream(c.getDeclaredFields()).filter(f -> !Modifier.isStatic(f.getModifiers())).count();
             CHECK.holds("fields of " + c + ": " + fields, fields <= 20);
             for (Method m : c.getDeclaredMethods()) {
-                CHECK.holds("no name of the face: " + m, !names.contains(m.getName()));
+                CHECK.holds("no name of the face: " + m, !names().contains(m.getName()));
                 CHECK.holds("seven parameters at most: " + m, m.getParameterCount() <= 7);
             }
         }
     }
 
-    private static void text(String source) {
-        String bare = source.replaceAll("(?s)/\\*.*?\\*/", " ").replaceAll("//[^\n]*", " ").replaceAll("\"[^\"]*\"", "\"\"");
+    /** The text without comments, and without what stands in texts. */
+    private static String bare(String source) {
+        return source.replaceAll("(?s)/\\*.*?\\*/", " ").replaceAll("//[^\n]*", " ").replaceAll("\"[^\"]*\"", "\"\"");
+    }
+
+    private static void text(String bare) {
         for (String word : new String[] {"throw", "throws", "try", "catch", "synchronized", "assert", "package", "->", "::", "...",
             "Exact(", "toString", "hashCode", "Random", "System.out", "System.nano", "System.current", "Thread", "var "}) {
             CHECK.holds("without " + word, !found(bare, word));
@@ -96,6 +104,52 @@ public final class FaceTest {
             open = begins ? 1 : open == 0 ? 0 : line.matches(" {4,8}\\}") ? 0 : open + 1;
             CHECK.holds("a method of sixty lines at most: " + line, open <= 60);
         }
+    }
+
+    /**
+     * Calls that are no recursion go at most eight deep, and none makes an object. Methods of one name are taken as
+     * one, so that this can tell too deep a call, never one that is not deep enough.
+     */
+    private static void bodies(String bare) {
+        Map<String, String> bodies = new TreeMap<>();
+        Matcher methods = Pattern.compile("(?ms)^( {4}| {8})(?:\\w+ )*\\w+ (\\w+)\\([^)]*\\) \\{\n(.*?)^\\1\\}").matcher(bare);
+        while (methods.find()) {
+            bodies.merge(methods.group(2), methods.group(3), String::concat);
+        }
+        CHECK.holds("every call of the face has been read", bodies.keySet().containsAll(names()));
+        // All calls of a run live in one room: what a call made would be counted as often as it is called.
+        bodies.forEach((name, body) -> CHECK.holds("no call makes an object: " + name, !found(body, "new")));
+        Map<String, Set<String>> calls = new TreeMap<>();
+        bodies.forEach((name, body) -> calls.put(name, called(body, bodies.keySet())));
+        for (String name : names()) {
+            int deep = deepest(name, calls, new TreeSet<>());
+            CHECK.holds("calls from " + name + " on go " + deep + " deep", deep <= MOST_DEEP);
+        }
+    }
+
+    private static Set<String> called(String body, Set<String> own) {
+        Set<String> found = new TreeSet<>();
+        Matcher calls = Pattern.compile("(\\w+)\\(").matcher(body);
+        while (calls.find()) {
+            if (own.contains(calls.group(1))) {
+                found.add(calls.group(1));
+            }
+        }
+        return found;
+    }
+
+    private static int deepest(String name, Map<String, Set<String>> calls, Set<String> open) {
+        int below = 0;
+        open.add(name);
+        for (String next : calls.get(name)) {
+            below = open.contains(next) ? below : Math.max(below, deepest(next, calls, open));
+        }
+        open.remove(name);
+        return 1 + below;
+    }
+
+    private static Set<String> names() {
+        return Arrays.stream(FACE).map(s -> s.substring(0, s.indexOf('('))).collect(Collectors.toSet());
     }
 
     private static boolean found(String text, String word) {
